@@ -20,6 +20,7 @@ public final class AlongTest {
         againstTicks(new int[][] {{1, 1, 2}, {3, 1}});
         againstTicks(new int[][] {{1, 2, 1}, {1, 1, 3}});
         againstTicks(new int[][] {{1, 4, 1, 1}, {2, 5}});
+        againstTicks(new int[][] {{1, 2, 1, 1, 3, 1}, {2, 1, 1, 1, 2, 1}});
         due.close();
     }
 
@@ -55,6 +56,12 @@ public final class AlongTest {
         }
         Due.cellar(x, "candle 60;candle 10;");
         due.is("by the new cellar", x.alongs(3, 0), 1280);
+        due.is("of one", x.alongs(1, -1), 2);
+        due.is("of the other", x.alongs(2, -1), 2);
+        due.is("at 1", x.along(2, 1), 0);
+        Due.cellar(x, "candle 60 60 60 60 60 60;".repeat(8));
+        due.is("the last of two great ones", x.alongs(0xc0, x.alongs(0xc0, -1) - 1), 2 * 92160);
+        due.is("three are too many", x.alongs(0xe0, -1), -3);
     }
 
     private static void wrongInputs() {

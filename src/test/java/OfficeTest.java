@@ -43,6 +43,9 @@ public final class OfficeTest {
         UnevenWax x = three();
         Due.row(x, 0, 3, 2560);
         due.is("one bell", x.log(0), 1 + 4);
+        Due.row(x, 0, 3, 2561);
+        due.is("a spark later", x.log(0), 0);
+        due.is("a spark later, missed", x.missed(0, 0, -1), -1);
         Due.row(x, 0, 3, 2560, 5120);
         due.is("two bells", x.log(0), 1);
         Due.row(x, 0, 3, 5120, 2560);

@@ -18,6 +18,10 @@ public final class RunTest {
         nights();
         chimes();
         days();
+        oneAfterTheOther();
+        halvedEightTimes();
+        nothingOfAnotherRun();
+        eightDraughts();
         wrongInputs();
         due.close();
     }
@@ -238,6 +242,88 @@ public final class RunTest {
         due.is("no such candle ahead of the days", x.days(0, 0, 2), -2);
         due.is("no such what", x.days(0, 1, -2), -2);
         due.is("no such plan", x.days(4, 0, 0), -2);
+    }
+
+    private static void oneAfterTheOther() {
+        StringBuilder plan = new StringBuilder("first light 0;");
+        for (int c = 0; c < 8; c++) {
+            plan.append("ends ").append(c).append(" bell");
+            plan.append(c < 7 ? " and light " + (c + 1) + ";" : ";");
+        }
+        UnevenWax x = Due.of("candle 60 60 60 60 60 60;".repeat(8), plan.toString());
+        for (int k = 0; k < 8; k++) {
+            due.is("bell " + k, x.bell(0, k), (k + 1) * 92160);
+            due.is("ends " + k, x.ends(0, k), (k + 1) * 92160);
+        }
+        due.is("over", x.run(0, 1), 8 * 92160);
+        due.is("the last one at half its time", x.rest(0, 7, 7 * 92160 + 46080), 46080);
+        due.is("wax", x.run(0, 4), 480);
+        due.is("idle", x.idle(0), 0);
+        due.is("a longer one", x.would(0, 7, 3, 200000 - 92160), 7 * 92160 + 200000);
+        Due.plan(x, 1, "first join 0 1 and join 0 2 and join 0 3 and join 0 4 and join 0 5 and join 0 6 and join 0 7 and light 0;ends 0 bell;");
+        due.is("all in one", x.bell(1, 0), 8 * 92160);
+        due.is("all its wax", x.run(1, 4), 480);
+        due.is("the last is taken", x.days(1, 2, 7), 2);
+    }
+
+    /** Each of eight candles is lit at its second end as the one before it ends, and ends half as much later. */
+    private static void halvedEightTimes() {
+        StringBuilder cellar = new StringBuilder();
+        StringBuilder plan = new StringBuilder("first both 0");
+        for (int c = 1; c < 8; c++) {
+            plan.append(" and light ").append(c);
+        }
+        plan.append(';');
+        long rest = 0;
+        long now = 0;
+        for (int c = 0; c < 8; c++) {
+            cellar.append("candle ").append(10 + 7 * c).append(';');
+            plan.append("ends ").append(c).append(" bell");
+            plan.append(c < 7 ? " and light " + (c + 1) + ";" : ";");
+            rest = (10 + 7 * c) * 256L * 256;
+            now += (rest - now) / 2;
+        }
+        UnevenWax x = Due.of(cellar.toString(), plan.toString());
+        due.is("whole sparks", now % 256, 0);
+        due.is("the eighth bell", x.bell(0, 7), now / 256);
+        due.is("a spark more in the first is 256ths later", x.would(0, 7, 0, 1), now / 256);
+        due.is("256 sparks more make one", x.would(0, 7, 0, 256), now / 256 + 1);
+        due.is("255 do not", x.would(0, 7, 0, 255), now / 256);
+        due.is("one spark less is cut", x.would(0, 7, 0, -1), now / 256 - 1);
+        due.is("the last one's own", x.would(0, 7, 7, 2), now / 256 + 1);
+    }
+
+    private static void nothingOfAnotherRun() {
+        UnevenWax x = Due.of("candle 10;candle 20;candle 5;",
+            "first out 0 and out 1 and join 0 1 and light 0 and bell;ends 0 bell;", "first light 2 and light 0;ends 0 bell;ends 7 bell;");
+        due.is("ends, asked first", x.ends(0, 0), 30 * 256);
+        due.is("ends of the other", x.ends(1, 0), 2560);
+        due.is("vain of the first", x.vain(0, 1), 1);
+        due.is("vain of the other", x.vain(1, 0), -1);
+        due.is("vain of the other, how many", x.run(1, 2), 0);
+        due.is("idle of the other", x.idle(1), 4);
+        due.is("1 is not taken", x.days(1, 5, 1), 0);
+        due.is("1 is taken", x.days(0, 5, 1), 5);
+        due.is("wax", x.run(1, 4), 120);
+        due.is("lit", x.run(1, 3), 2);
+        due.is("bells", x.run(1, 0), 1);
+        UnevenWax y = Due.of("candle 10;", "first light 0;ends 0 out 0;");
+        due.is("vain, asked first", y.vain(0, 0), 1);
+        UnevenWax z = Due.of("candle 10;", "first light 0;ends 1 out 0;");
+        due.is("idle, asked first", z.idle(0), 2);
+    }
+
+    private static void eightDraughts() {
+        UnevenWax x = Due.of("candle 10 draught 50;".repeat(8),
+            "first join 0 1 and join 0 2 and join 0 3 and join 0 4 and join 0 5 and join 0 6 and join 0 7 and light 0;ends 0 bell;",
+            "first light 0;ends 0 bell and light 1;ends 1 bell;");
+        due.is("all less", x.off(0, 0, 0), 8 * 1280);
+        due.is("all more", x.off(0, 0, 1), 8 * 3840);
+        due.is("two of them, less", x.off(1, 1, 0), 2560);
+        due.is("two of them, more", x.off(1, 1, 1), 7680);
+        UnevenWax y = Due.of("candle 10;candle 10 draught 1;", "first join 0 1 and light 0;ends 0 bell;");
+        due.is("only what is joined, less", y.off(0, 0, 0), 2560 + 2534);
+        due.is("only what is joined, more", y.off(0, 0, 1), 2560 + 2585);
     }
 
     private static void wrongInputs() {

@@ -104,6 +104,13 @@ public final class TextTest {
         refused(-1, "5;", 2, 0);
         refused(-1, ";", 2, 0);
         refused(-1, "candles 5;", 2, 0);
+        refused(-1, "xandle 5;", 2, 0);
+        refused(-1, "z", 2, 0);
+        refused(-1, "a", 2, 0);
+        refused(-1, "`", 1, 0);
+        refused(-1, "{", 1, 0);
+        refused(-1, "/", 1, 0);
+        refused(-1, ":", 1, 0);
         refused(-1, "candle 5;;", 2, 9);
         refused(-1, "candle wax 5;", 2, 7);
         refused(-1, "candle 5 wax;", 2, 12);
@@ -205,6 +212,9 @@ public final class TextTest {
             due.is("candle(0, " + what + ")", x.candle(0, what), -2);
         }
         due.is("piece of another", x.candle(1, 11), -2);
+        Due.cellar(x, "candle 1;candle 2;");
+        due.is("no draught of the old one", x.candle(0, 3), 0);
+        due.is("no wax of the old one", x.candle(0, 2), 60);
         due.is("candle(2, 0)", x.candle(2, 0), -2);
         due.is("candle(-1, 0)", x.candle(-1, 0), -2);
     }

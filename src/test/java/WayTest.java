@@ -14,6 +14,7 @@ public final class WayTest {
         togetherTold();
         nearestTimes();
         newCellars();
+        greatCandles();
         wrongInputs();
         due.close();
     }
@@ -180,6 +181,32 @@ public final class WayTest {
         due.is("told by it, keeping", x.time(3, false, 0), 1280);
         due.is("can", x.can(3, false, 7680), 1);
         due.is("can", x.can(3, false, 15360), 0);
+    }
+
+    private static void greatCandles() {
+        UnevenWax x = Due.of("candle 60 60 60 60 60 60;".repeat(8));
+        int n = x.time(0xf0, true, -1);
+        due.is("the last", x.time(0xf0, true, n - 1), 4 * 92160);
+        due.is("the last, keeping", x.time(15, false, x.time(15, false, -1) - 1), 4 * 92160);
+        due.is("can", x.can(15, false, 4 * 92160), 1);
+        due.is("nearest", x.nearest(15, false, Integer.MAX_VALUE), 4 * 92160);
+        due.is("nearest", x.nearest(15, false, 4 * 92160 + 1), 4 * 92160);
+        due.is("least", x.least(4 * 92160, true, 1), 15);
+        due.is("least", x.least(4 * 92160 + 16, true, 1), -1);
+        due.is("fewest", x.fewest(0xf0, true, 4 * 92160), 4);
+        due.is("burnt", x.burnt(0xaa, false, 4 * 92160), 4 * 92160);
+        Due.row(x, 0, 3, 92160, 2 * 92160, 3 * 92160, 4 * 92160);
+        due.is("together", x.together(0xf0, false, 0), 1);
+        due.is("together, by", x.leastFor(0, false), 15);
+        Due.row(x, 0, 3, 92160, 2 * 92160, 3 * 92160, 4 * 92160, 5 * 92160);
+        due.is("five are too many", x.leastFor(0, false), -1);
+        due.is("five are too many", x.together(15, false, 0), 0);
+        Due.row(x, 0, 3, 92160, 2 * 92160, 3 * 92160, 4 * 92160 + 1);
+        due.is("one spark off", x.leastFor(0, true), -1);
+        due.is("1 can't be told", x.fewest(1, true, 1), -1);
+        due.is("1 can't be told", x.burnt(1, true, 1), -1);
+        due.is("1 can't be told", x.given(1, true, 1, -1), -1);
+        due.is("1 is nearest to", x.nearest(1, true, 1), 46080);
     }
 
     private static void wrongInputs() {
