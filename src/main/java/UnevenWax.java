@@ -1877,7 +1877,7 @@ public final class UnevenWax {
             if (behind >= wanted) {
                 found = true;
                 over = true;
-            } else {
+            } else if (mayTell(level, wants[behind] - now)) {
                 go(level, left, behind);
             }
         }
@@ -1888,13 +1888,33 @@ public final class UnevenWax {
                 return;
             }
             if (now < target) {
-                go(level, left, spent);
+                if (mayTell(level, target - now)) {
+                    go(level, left, spent);
+                }
                 return;
             }
             found = true;
             best = spent;
             reached = level;
             over = goal == REACH;
+        }
+
+        /** False where so much more can't be told from here; most ways are cut short by it. */
+        private boolean mayTell(int level, int more) {
+            int standing = 0;
+            int bits = 0;
+            for (int c = 0; c < size; c++) {
+                if (rest[level][c] > 0) {
+                    standing++;
+                    bits |= rest[level][c];
+                }
+            }
+            if (standing == 1) {
+                return more == bits || more * 2 == bits;
+            }
+            // All rests are multiples of their lowest bit, and each end halves it at most once.
+            int grid = (bits & -bits) >> standing;
+            return (more & grid - 1) == 0;
         }
 
         private int newFlames(int level) {
