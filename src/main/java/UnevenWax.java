@@ -1701,7 +1701,8 @@ public final class UnevenWax {
         void markAll(Marks to) {
             marks = to;
             goal = MARK;
-            search();
+            begin();
+            go(0, all, 0);
         }
 
         boolean seek(int newGoal, int time) {
@@ -1710,7 +1711,8 @@ public final class UnevenWax {
             }
             goal = newGoal;
             target = time;
-            search();
+            begin();
+            go(0, all, 0);
             return found;
         }
 
@@ -1758,7 +1760,8 @@ public final class UnevenWax {
                 }
             }
             goal = WANTED;
-            search();
+            begin();
+            go(0, all, 0);
             return found;
         }
 
@@ -1774,11 +1777,10 @@ public final class UnevenWax {
             return number;
         }
 
-        private void search() {
+        private void begin() {
             found = false;
             over = false;
             moment[0] = 0;
-            go(0, all, 0);
         }
 
         /** From the level-th moment on, with so much left in all; spent is what the goal counts. */
