@@ -47,9 +47,8 @@ public final class UnevenWax {
     private static final int JOIN = 3;
     private static final int BELL = 4;
 
-    private final int[] tape = new int[MOST_BYTES];
     private int tapeSize;
-    private final Reader reader = new Reader(tape);
+    private final Reader reader = new Reader();
     private final Cellar draftCellar = new Cellar();
     private final Plan draftPlan = new Plan();
     private final Book book = new Book();
@@ -87,7 +86,7 @@ public final class UnevenWax {
     private void putBytes(int four) {
         for (int shift = 24; shift >= 0; shift -= 8) {
             if (tapeSize < MOST_BYTES) {
-                tape[tapeSize] = (four >>> shift) & 255;
+                reader.tape[tapeSize] = (four >>> shift) & 255;
                 tapeSize++;
             }
         }
@@ -1057,7 +1056,7 @@ public final class UnevenWax {
         }
     }
 
-    /** Reads the tape, token by token; the first token that is wrong ends it. */
+    /** Holds the tape and reads it, token by token; the first token that is wrong ends it. */
     private static final class Reader {
         private static final int END = 0;
         private static final int WORD = 1;
@@ -1070,7 +1069,7 @@ public final class UnevenWax {
         private static final int OUT_OF_BOUNDS = 3;
         private static final int TOO_MANY = 4;
 
-        private final int[] text;
+        final int[] tape = new int[MOST_BYTES];
         private int size;
         private int at;
         private int token;
@@ -1078,10 +1077,6 @@ public final class UnevenWax {
         private int value;
         int fault;
         int place = NONE;
-
-        Reader(int[] text) {
-            this.text = text;
-        }
 
         boolean readCellar(Cellar to, int n) {
             begin(n);
@@ -1227,7 +1222,7 @@ public final class UnevenWax {
         }
 
         private void begin(int n) {
-            size = Math.max(0, Math.min(n, text.length));
+            size = Math.max(0, Math.min(n, MOST_BYTES));
             at = 0;
             fault = 0;
             place = NONE;
@@ -1257,7 +1252,7 @@ public final class UnevenWax {
                 return false;
             }
             for (int i = 0; i < word.length(); i++) {
-                if (text[start + i] != word.charAt(i)) {
+                if (tape[start + i] != word.charAt(i)) {
                     return false;
                 }
             }
@@ -1265,30 +1260,30 @@ public final class UnevenWax {
         }
 
         private void advance() {
-            while (at < size && (text[at] == ' ' || text[at] == '\n')) {
+            while (at < size && (tape[at] == ' ' || tape[at] == '\n')) {
                 at++;
             }
             start = at;
             if (at >= size) {
                 token = END;
-            } else if (isLetter(text[at])) {
+            } else if (isLetter(tape[at])) {
                 token = WORD;
-                while (at < size && isLetter(text[at])) {
+                while (at < size && isLetter(tape[at])) {
                     at++;
                 }
-            } else if (isDigit(text[at])) {
+            } else if (isDigit(tape[at])) {
                 advanceDigits();
             } else {
-                token = text[at] == ';' ? STOP : STRANGE;
+                token = tape[at] == ';' ? STOP : STRANGE;
                 at++;
             }
         }
 
         private void advanceDigits() {
             value = 0;
-            while (at < size && isDigit(text[at])) {
+            while (at < size && isDigit(tape[at])) {
                 if (at - start < 3) {
-                    value = value * 10 + text[at] - '0';
+                    value = value * 10 + tape[at] - '0';
                 }
                 at++;
             }

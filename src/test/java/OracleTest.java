@@ -28,152 +28,7 @@ public final class OracleTest {
         return (draw >>> 8) % n;
     }
 
-    // ---- runs: parts of a candle are burnt one spark-fraction after the other, from a list
-
-    /** A run in 65536ths of a spark; each candle is a list of owners and what is left of theirs. */
-    private static final class SlowRun {
-        final long[] first;
-        final List<List<long[]>> parts = new ArrayList<>();
-        final int[] flames;
-        final long[] endAt;
-        final boolean[] gone;
-        final List<Long> bells = new ArrayList<>();
-        final TreeSet<Integer> vain = new TreeSet<>();
-        final TreeSet<Integer> done = new TreeSet<>();
-        final List<String[]> rules;
-        final int without;
-        int lit;
-        long now;
-
-        SlowRun(long[] sparks, List<String[]> rules, int without, long until) {
-            this.rules = rules;
-            this.without = without;
-            first = new long[sparks.length];
-            flames = new int[sparks.length];
-            endAt = new long[sparks.length];
-            gone = new boolean[sparks.length];
-            for (int c = 0; c < sparks.length; c++) {
-                first[c] = sparks[c] << 16;
-                endAt[c] = -1;
-                List<long[]> own = new ArrayList<>();
-                own.add(new long[] {c, first[c]});
-                parts.add(own);
-            }
-            obey("first");
-            while (burnOn(until << 16)) {
-                for (int c = 0; c < sparks.length; c++) {
-                    if (flames[c] > 0 && left(c) == 0) {
-                        endAt[c] = now;
-                    }
-                }
-                for (int c = 0; c < sparks.length; c++) {
-                    if (endAt[c] == now && flames[c] > 0) {
-                        flames[c] = 0;
-                        obey("ends " + c);
-                    }
-                }
-            }
-        }
-
-        long left(int c) {
-            long sum = 0;
-            for (long[] part : parts.get(c)) {
-                sum += part[1];
-            }
-            return sum;
-        }
-
-        private boolean burnOn(long until) {
-            long step = Long.MAX_VALUE;
-            for (int c = 0; c < first.length; c++) {
-                if (flames[c] > 0) {
-                    if (left(c) % flames[c] != 0) {
-                        throw new IllegalStateException("a time that isn't whole");
-                    }
-                    step = Math.min(step, left(c) / flames[c]);
-                }
-            }
-            if (step == Long.MAX_VALUE) {
-                return false;
-            }
-            boolean ends = now + step <= until;
-            step = Math.min(step, until - now);
-            for (int c = 0; c < first.length; c++) {
-                long burns = step * flames[c];
-                for (long[] part : parts.get(c)) {
-                    long share = Math.min(part[1], burns);
-                    part[1] -= share;
-                    burns -= share;
-                }
-            }
-            now += step;
-            return ends;
-        }
-
-        private void obey(String when) {
-            int act = 0;
-            for (int i = 0; i < rules.size(); i++) {
-                String[] rule = rules.get(i);
-                for (int j = 1; j < rule.length; j++) {
-                    if (rule[0].equals(when) && act != without && !does(rule[j].split(" "))) {
-                        vain.add(act);
-                    }
-                    act++;
-                }
-                if (rule[0].equals(when)) {
-                    done.add(i);
-                }
-            }
-        }
-
-        private boolean does(String[] act) {
-            if (act[0].equals("bell")) {
-                bells.add(now);
-                return true;
-            }
-            int c = Integer.parseInt(act[1]);
-            if (!lives(c)) {
-                return false;
-            }
-            int had = flames[c];
-            switch (act[0]) {
-                case "light": flames[c] = Math.min(2, had + 1); break;
-                case "both": flames[c] = 2; break;
-                case "out": flames[c] = 0; break;
-                default: return joins(c, Integer.parseInt(act[2]));
-            }
-            lit += Math.max(0, flames[c] - had);
-            return flames[c] != had;
-        }
-
-        private boolean lives(int c) {
-            return c < first.length && !gone[c] && endAt[c] < 0;
-        }
-
-        private boolean joins(int c, int second) {
-            if (c == second || !lives(second) || flames[c] + flames[second] > 0) {
-                return false;
-            }
-            parts.get(c).addAll(parts.get(second));
-            parts.set(second, new ArrayList<>());
-            gone[second] = true;
-            return true;
-        }
-
-        long ownLeft(int owner) {
-            long sum = 0;
-            for (List<long[]> candle : parts) {
-                for (long[] part : candle) {
-                    sum += part[0] == owner ? part[1] : 0;
-                }
-            }
-            return sum;
-        }
-
-        long bell(int k) {
-            return k >= 0 && k < bells.size() ? bells.get(k) >> 16 : -1;
-        }
-    }
+    // ---- runs
 
     private static List<String[]> someRules(int candles) {
         List<String[]> rules = new ArrayList<>();
@@ -342,75 +197,7 @@ public final class OracleTest {
         }
     }
 
-    // ---- ways: all of them are written down, then looked through
-
-    private static final class Way {
-        final List<Integer> moments = new ArrayList<>();
-        final List<String> given = new ArrayList<>();
-        final List<Integer> lit = new ArrayList<>();
-        final List<Integer> burnt = new ArrayList<>();
-
-        Way() {
-        }
-
-        Way(Way other) {
-            moments.addAll(other.moments);
-            given.addAll(other.given);
-            lit.addAll(other.lit);
-            burnt.addAll(other.burnt);
-        }
-
-        int now() {
-            return moments.isEmpty() ? 0 : moments.get(moments.size() - 1);
-        }
-
-        int last(List<Integer> of) {
-            return of.isEmpty() ? 0 : of.get(of.size() - 1);
-        }
-    }
-
-    /** Goes on in every way from here, the digits counted from the highest down, so that no order is taken over. */
-    private static void allWays(Way way, int[] rests, int[] flames, boolean out, List<Way> to) {
-        boolean any = false;
-        int codes = (int) Math.pow(3, rests.length);
-        for (int code = codes - 1; code > 0; code--) {
-            int[] gives = new int[rests.length];
-            int left = code;
-            boolean may = true;
-            int step = Integer.MAX_VALUE;
-            int lit = 0;
-            for (int c = 0; c < rests.length; c++) {
-                gives[c] = left % 3;
-                left /= 3;
-                may &= rests[c] > 0 ? out || gives[c] >= flames[c] : gives[c] == 0;
-                step = gives[c] > 0 ? Math.min(step, rests[c] / gives[c]) : step;
-                lit += Math.max(0, gives[c] - flames[c]);
-            }
-            if (!may) {
-                continue;
-            }
-            any = true;
-            Way next = new Way(way);
-            int[] then = rests.clone();
-            int[] has = gives.clone();
-            int burnt = 0;
-            StringBuilder digits = new StringBuilder();
-            for (int c = 0; c < rests.length; c++) {
-                then[c] -= gives[c] * step;
-                burnt += gives[c] * step;
-                has[c] = then[c] == 0 ? 0 : gives[c];
-                digits.append(gives[c]);
-            }
-            next.lit.add(way.last(way.lit) + lit);
-            next.burnt.add(way.last(way.burnt) + burnt);
-            next.moments.add(way.now() + step);
-            next.given.add(digits.toString());
-            allWays(next, then, has, out, to);
-        }
-        if (!any) {
-            to.add(way);
-        }
-    }
+    // ---- ways
 
     private static void compareWays(int size) {
         int candles = Math.min(8, size + below(3));
@@ -436,8 +223,8 @@ public final class OracleTest {
             }
         }
         for (int i = 0; i < 2; i++) {
-            List<Way> ways = new ArrayList<>();
-            allWays(new Way(), chosen, new int[size], i == 1, ways);
+            List<SlowWay> ways = new ArrayList<>();
+            SlowWay.allWays(new SlowWay(), chosen, new int[size], i == 1, ways);
             UnevenWax x = Due.of(cellar.toString());
             String name = cellar + " set " + set + " " + (i == 1) + " ";
             compareTold(name, x, set, i == 1, ways, all);
@@ -445,10 +232,10 @@ public final class OracleTest {
         }
     }
 
-    private static void compareTold(String name, UnevenWax x, int set, boolean out, List<Way> ways, int all) {
+    private static void compareTold(String name, UnevenWax x, int set, boolean out, List<SlowWay> ways, int all) {
         TreeSet<Integer> told = new TreeSet<>();
         TreeSet<Integer> between = new TreeSet<>();
-        for (Way way : ways) {
+        for (SlowWay way : ways) {
             told.addAll(way.moments);
             between.addAll(way.moments);
             for (int i = 0; i < way.moments.size(); i++) {
@@ -499,11 +286,11 @@ public final class OracleTest {
         due.is(name + "no more lacks of " + step, x.lacks(set, out, step, k), -1);
     }
 
-    private static void compareTime(String name, UnevenWax x, int set, boolean out, List<Way> ways, int time) {
+    private static void compareTime(String name, UnevenWax x, int set, boolean out, List<SlowWay> ways, int time) {
         int lit = Integer.MAX_VALUE;
         int burnt = Integer.MAX_VALUE;
         String first = null;
-        for (Way way : ways) {
+        for (SlowWay way : ways) {
             int at = way.moments.indexOf(time);
             if (at >= 0) {
                 lit = Math.min(lit, way.lit.get(at));
@@ -522,17 +309,17 @@ public final class OracleTest {
         due.is(name + "given no more", x.given(set, out, time, given.length), -1);
     }
 
-    private static void compareTogether(String name, UnevenWax x, int set, boolean out, List<Way> ways) {
+    private static void compareTogether(String name, UnevenWax x, int set, boolean out, List<SlowWay> ways) {
         for (int i = 0; i < 12; i++) {
-            Way one = ways.get(below(ways.size()));
-            Way other = ways.get(below(ways.size()));
+            SlowWay one = ways.get(below(ways.size()));
+            SlowWay other = ways.get(below(ways.size()));
             long[] times = new long[1 + below(3)];
             for (int j = 0; j < times.length; j++) {
-                Way from = i % 2 == 0 || below(2) == 0 ? one : other;
+                SlowWay from = i % 2 == 0 || below(2) == 0 ? one : other;
                 times[j] = from.moments.get(below(from.moments.size()));
             }
             boolean so = false;
-            for (Way way : ways) {
+            for (SlowWay way : ways) {
                 boolean all = true;
                 for (long time : times) {
                     all &= way.moments.contains((int) time);
